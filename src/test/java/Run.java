@@ -1,0 +1,131 @@
+import java.lang.reflect.InvocationTargetException;
+import java.lang.reflect.Method;
+import java.util.ArrayList;
+import java.util.HashMap;
+import java.util.List;
+import java.util.Map;
+
+/**
+ * A run of calls on a new PictureCanvas, each with the answer that is due. An answer is a number,
+ * DONE of a void call, or the name of the exception behind "throws.".
+ */
+final class Run {
+    static final String DONE = "done";
+    static final String NONE = "throws.NoSuchElementException";
+    static final String ARGUMENT = "throws.IllegalArgumentException";
+    static final String STATE = "throws.IllegalStateException";
+
+    private static final int CALLS_OF_ONE_OBJECT = 512;
+    private static final int MOST_PRINTED = 50;
+    private static final Map<String, Method> METHODS = methods();
+    private static int calls = 0;
+    private static int wrong = 0;
+
+    private record Call(String name, int[] args) {
+    }
+
+    private final String title;
+    private final List<Call> changes = new ArrayList<>();
+    private PictureCanvas canvas = new PictureCanvas();
+    private int callsOfObject = 0;
+
+    Run(String title) {
+        this.title = title;
+    }
+
+    void due(Object want, String name, int... args) {
+        String got = answer(name, args);
+        if (!got.equals(String.valueOf(want))) {
+            report(name, args, "answered " + got + ", due is " + want);
+        }
+    }
+
+    /** The four edges in turn: what 0 .. 3 behind the arguments. */
+    void dueEdges(int x0, int y0, int x1, int y1, String name, int... args) {
+        int[] edges = {x0, y0, x1, y1};
+        for (int what = 0; what < edges.length; what++) {
+            due(edges[what], name, with(args, what));
+        }
+    }
+
+    String answer(String name, int... args) {
+        if (callsOfObject >= CALLS_OF_ONE_OBJECT) {
+            startAnew();
+        }
+        String got = answerOf(name, args);
+        boolean changed = Model.CHANGES.contains(name) && !got.startsWith("throws.");
+        if (changed) {
+            changes.add(new Call(name, args.clone()));
+        }
+        return got;
+    }
+
+    /** The answer as a number; a call that throws is reported and counts as -1. */
+    int number(String name, int... args) {
+        String got = answer(name, args);
+        if (got.startsWith("throws.")) {
+            report(name, args, got);
+            return -1;
+        }
+        return Integer.parseInt(got);
+    }
+
+    void report(String name, int[] args, String fault) {
+        wrong++;
+        if (wrong <= MOST_PRINTED) {
+            System.out.println(title + ": " + shown(name, args) + " " + fault);
+        }
+    }
+
+    static int[] with(int[] args, int... more) {
+        int[] all = java.util.Arrays.copyOf(args, args.length + more.length);
+        System.arraycopy(more, 0, all, args.length, more.length);
+        return all;
+    }
+
+    static void finish() {
+        System.out.println(calls + " calls, " + wrong + " wrong");
+        if (wrong != 0 || calls == 0) {
+            System.exit(1);
+        }
+    }
+
+    /** Nothing is promised of an object after its 512th call: a new one is brought as far. */
+    private void startAnew() {
+        canvas = new PictureCanvas();
+        callsOfObject = 0;
+        for (Call change : changes) {
+            answerOf(change.name(), change.args());
+        }
+    }
+
+    private String answerOf(String name, int[] args) {
+        calls++;
+        callsOfObject++;
+        Object[] boxed = new Object[args.length];
+        for (int i = 0; i < args.length; i++) {
+            boxed[i] = args[i];
+        }
+        try {
+            Object got = METHODS.get(name).invoke(canvas, boxed);
+            return got == null ? DONE : got.toString();
+        } catch (InvocationTargetException e) {
+            return "throws." + e.getCause().getClass().getSimpleName();
+        } catch (IllegalAccessException e) {
+            return e.toString();
+        }
+    }
+
+    private static Map<String, Method> methods() {
+        Map<String, Method> methods = new HashMap<>();
+        for (Method method : PictureCanvas.class.getDeclaredMethods()) {
+            methods.put(method.getName(), method);
+        }
+        return methods;
+    }
+
+    private static String shown(String name, int[] args) {
+        String list = java.util.Arrays.toString(args);
+        return name + "(" + list.substring(1, list.length() - 1) + ")";
+    }
+}

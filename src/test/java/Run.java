@@ -16,6 +16,7 @@ final class Run {
     static final String STATE = "throws.IllegalStateException";
 
     private static final int CALLS_OF_ONE_OBJECT = 512;
+    private static final int CALLS_OF_VIEW = 120;
     private static final int MOST_PRINTED = 50;
     private static final Map<String, Method> METHODS = methods();
     private static int calls = 0;
@@ -46,6 +47,47 @@ final class Run {
         for (int what = 0; what < edges.length; what++) {
             due(edges[what], name, with(args, what));
         }
+    }
+
+    /** A call that throws, and changes nothing. */
+    void refused(String want, String name, int... args) {
+        // Both views of one object, with no new one between them.
+        if (callsOfObject > CALLS_OF_ONE_OBJECT - 2 * CALLS_OF_VIEW - 1) {
+            startAnew();
+        }
+        List<String> before = view();
+        due(want, name, args);
+        if (!before.equals(view())) {
+            report(name, args, "throws but changes something");
+        }
+    }
+
+    /** Answers that would be others if the picture, tiles or components were. */
+    private List<String> view() {
+        List<String> seen = new ArrayList<>();
+        int start = callsOfObject;
+        for (int t : new int[] {0, 1, 5, 11, 12}) {
+            for (int what = 0; what <= 3; what++) {
+                seen.add(answer("tile", t, what));
+            }
+        }
+        for (int c = 0; c <= 16; c++) {
+            seen.add(answer("part", 0, c, 2));
+            seen.add(answer("part", 0, c, 3));
+        }
+        for (int c : new int[] {0, 1, 15}) {
+            for (int r = 0; r <= 3; r++) {
+                seen.add(answer("part", 0, c, r));
+                seen.add(answer("level", 0, c, r, 4));
+                seen.add(answer("level", 0, c, r, 5));
+                seen.add(answer("band", 0, c, r, r == 0 ? 0 : 1, 4));
+                seen.add(answer("band", 0, c, r, r == 0 ? 0 : 1, 5));
+            }
+        }
+        if (callsOfObject - start > CALLS_OF_VIEW) {
+            throw new AssertionError("a view takes more calls than is reckoned with");
+        }
+        return seen;
     }
 
     String answer(String name, int... args) {

@@ -257,7 +257,7 @@ public final class PictureCanvas {
 
     /** The component of that number, null if there is none. */
     private Component componentAt(int c) {
-        return c >= 0 && c < componentCount && c < components.length ? components[c] : null;
+        return c >= 0 && c < componentCount ? components[c] : null;
     }
 
     private boolean findTile(int t) {

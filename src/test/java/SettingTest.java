@@ -142,6 +142,12 @@ public final class SettingTest {
         run.due(Run.DONE, "area", 0, 0, 256, 256);
         run.refused(Run.ARGUMENT, "tiles", 0, 0, 1, 1);
         run.due(32768, "tiles", 0, 0, 2, 1);
+        run.due(Run.DONE, "area", 0, 0, 32767, 2);
+        run.due(65534, "tiles", 0, 0, 1, 1);
+        run.due(Run.DONE, "area", 0, 0, 32767, 3);
+        run.refused(Run.ARGUMENT, "tiles", 0, 0, 1, 1);
+        run.due(Run.DONE, "area", 0, 0, 3, 32767);
+        run.refused(Run.ARGUMENT, "tiles", 0, 0, 1, 1);
     }
 
     private static void component() {

@@ -34,6 +34,12 @@ final class Run {
         this.title = title;
     }
 
+    /** A run that tests a sentence of the document. */
+    static Run of(String section, String sentence) {
+        Document.quote(section, sentence);
+        return new Run(section + " \"" + sentence + "\"");
+    }
+
     void due(Object want, String name, int... args) {
         String got = answer(name, args);
         if (!got.equals(String.valueOf(want))) {
@@ -46,6 +52,25 @@ final class Run {
         int[] edges = {x0, y0, x1, y1};
         for (int what = 0; what < edges.length; what++) {
             due(edges[what], name, with(args, what));
+        }
+    }
+
+    /** The call with the argument of that index one below what it is here, as it is, one above. */
+    void dueAround(Object below, Object at, Object above, int index, String name, int... args) {
+        Object[] wants = {below, at, above};
+        for (int step = -1; step <= 1; step++) {
+            int[] moved = args.clone();
+            moved[index] += step;
+            dueOrRefused(wants[step + 1], name, moved);
+        }
+    }
+
+    /** As due, and a call that is to throw changes nothing. */
+    void dueOrRefused(Object want, String name, int... args) {
+        if (want instanceof String text && text.startsWith("throws.")) {
+            refused(text, name, args);
+        } else {
+            due(want, name, args);
         }
     }
 
@@ -125,7 +150,9 @@ final class Run {
         return all;
     }
 
-    static void finish() {
+    /** Ends the test; of the sections that are named, the runs must name every sentence. */
+    static void finish(String... wholeSections) {
+        wrong += Document.faults(wholeSections);
         System.out.println(calls + " calls, " + wrong + " wrong");
         if (wrong != 0 || calls == 0) {
             System.exit(1);

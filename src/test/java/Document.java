@@ -51,6 +51,11 @@ final class Document {
         return faults;
     }
 
+    /** What the section says, in one line; nothing if the document is not here. */
+    static String section(String name) {
+        return Files.isReadable(FILE) ? sections().getOrDefault(name, "") : "";
+    }
+
     private static int leftOut(String section, String text) {
         int count = 0;
         Matcher sentence = SENTENCE.matcher(text);

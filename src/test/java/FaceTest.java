@@ -6,6 +6,8 @@ import java.util.Arrays;
 import java.util.HashSet;
 import java.util.Set;
 import java.util.TreeSet;
+import java.util.regex.Matcher;
+import java.util.regex.Pattern;
 import java.util.stream.Collectors;
 
 /** The class has the face of the document, and nothing else can be seen from outside. */
@@ -26,12 +28,16 @@ public final class FaceTest {
             "int where(3) NoSuchElementException",
             "int coefficient(5) NoSuchElementException");
 
+    private static final Pattern SIGNATURE = Pattern.compile(
+            "public (\\w+) (\\w+)\\(([^)]*)\\) throws ([^;]+);");
+
     private static int wrong = 0;
 
     public static void main(String[] args) {
         Class<?> canvas = PictureCanvas.class;
         check(Modifier.isFinal(canvas.getModifiers()), "the class is final");
         check(Modifier.isPublic(canvas.getModifiers()), "the class is public");
+        document();
         methods(canvas);
         constructors(canvas);
         for (Field field : canvas.getDeclaredFields()) {
@@ -45,6 +51,23 @@ public final class FaceTest {
         if (wrong != 0) {
             System.exit(1);
         }
+    }
+
+    /** That the face above is the one of the document. */
+    private static void document() {
+        String section = Document.section("The public face");
+        if (section.isEmpty()) {
+            System.out.println("the document is not here: its face is not looked up");
+            return;
+        }
+        Set<String> face = new HashSet<>();
+        Matcher signature = SIGNATURE.matcher(section);
+        while (signature.find()) {
+            face.add(signature.group(1) + " " + signature.group(2) + "("
+                    + signature.group(3).split(", ").length + ") "
+                    + signature.group(4).replace(",", ""));
+        }
+        check(face.equals(FACE), "the face is the document's, which is " + face);
     }
 
     private static void methods(Class<?> canvas) {

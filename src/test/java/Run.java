@@ -137,6 +137,10 @@ final class Run {
         return Integer.parseInt(got);
     }
 
+    int callsOfObject() {
+        return callsOfObject;
+    }
+
     void report(String name, int[] args, String fault) {
         wrong++;
         if (wrong <= MOST_PRINTED) {
